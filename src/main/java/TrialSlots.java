@@ -100,8 +100,8 @@ public final class TrialSlots {
         if (!isPackage(number) || runningNow == NONE || trialNow) {
             return REFUSED;
         }
-        int running = runningNow == RECOVERY ? Table.homeIn(store.entry()) : runningNow;
-        return replace(1 - running, packagePlace(number)) ? 0 : powerLost();
+        int kept = runningNow == RECOVERY ? Table.homeIn(store.entry()) : runningNow;
+        return replace(1 - kept, packagePlace(number)) ? 0 : powerLost();
     }
 
     /** Promise 9. */

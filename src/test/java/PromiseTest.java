@@ -35,6 +35,65 @@ public final class PromiseTest {
         return x ^ (x >>> 16);
     }
 
+    /** The b for which hash(a, b) is that result. */
+    private static int second(int a, int result) {
+        return beforeMixing(result) - (a ^ 1398175271) * 796343837;
+    }
+
+    /** The a for which hash(a, b) is that result. */
+    private static int first(int b, int result) {
+        return (beforeMixing(result) - b) * inverse(796343837) ^ 1398175271;
+    }
+
+    private static int beforeMixing(int result) {
+        int x = (result ^ (result >>> 16)) * inverse(1398175271);
+        return x ^ (x >>> 13) ^ (x >>> 26);
+    }
+
+    private static int inverse(int odd) {
+        int x = odd;
+        for (int i = 0; i < 5; i++) {
+            x = x * (2 - odd * x);
+        }
+        return x;
+    }
+
+    /**
+     * A package that goes up to the root key without the maker: chains are as they come, the last
+     * path word is reckoned back from the root key. With a key that is none the way up has three
+     * steps too.
+     */
+    private static int[] forged(int root, int version, int key) {
+        int[] p = {version, hash(5, 0), hash(6, 1), hash(7, 2), key, 1, 2, 3, 4, 5, 6, 11, 12, 0, 5, 6, 7};
+        int m = hash(hash(hash(hash(17, p[0]), p[1]), p[2]), p[3]);
+        int c = 60 - (m & 15) - (m >>> 4 & 15) - (m >>> 8 & 15) - (m >>> 12 & 15);
+        int[] digits = {m & 15, m >>> 4 & 15, m >>> 8 & 15, m >>> 12 & 15, c & 15, c >>> 4};
+        int value = key;
+        for (int i = 0; i < 6; i++) {
+            int x = p[5 + i];
+            for (int j = digits[i]; j < 15; j++) {
+                x = hash(x, 16 * i + j);
+            }
+            value = hash(value, x);
+        }
+        int node = 8 + key;
+        for (int level = 0; level < 2; level++) {
+            boolean isLeft = node % 2 == 0;
+            int neighbour = p[11 + level];
+            value = hash(isLeft ? hash(value, neighbour) : hash(neighbour, value), node / 2);
+            node = node / 2;
+        }
+        int pair = first(node / 2, root);
+        p[13] = node % 2 == 0 ? second(value, pair) : first(value, pair);
+        return p;
+    }
+
+    private static void pokeSlot(TrialSlots x, int slot, int[] words) {
+        for (int i = 0; i < 17; i++) {
+            x.poke(17 * slot + i, words[i]);
+        }
+    }
+
     private static void pokeRecord(TrialSlots x, int record, int serial, int entry) {
         x.poke(34 + 3 * record, serial);
         x.poke(35 + 3 * record, entry);
@@ -224,6 +283,27 @@ public final class PromiseTest {
         due("fault(0), the signature being wrong too", x.fault(0), 2);
         x.alter(0, 0, 0);
         due("fault(0), the version being wrong too", x.fault(0), 1);
+        faultOfForged();
+    }
+
+    private static void faultOfForged() {
+        for (int key = -16; key <= 16; key++) {
+            dueFaultOfForged(3, key, key >= 0 && key <= 7 ? 0 : 2);
+        }
+        dueFaultOfForged(0, 5, 1);
+        dueFaultOfForged(1, 5, 0);
+        dueFaultOfForged(32, 5, 0);
+        dueFaultOfForged(33, 5, 1);
+    }
+
+    private static void dueFaultOfForged(int version, int key, int want) {
+        TrialSlots x = new TrialSlots(77, 1000);
+        x.sign(3, 5, 6, 7);
+        int[] words = forged(x.key(), version, key);
+        for (int i = 0; i < 17; i++) {
+            x.alter(0, i, words[i]);
+        }
+        due("fault(0), version " + version + " going up from key " + key, x.fault(0), want);
     }
 
     private static void cut() {
@@ -287,6 +367,7 @@ public final class PromiseTest {
         due("state(1)", x.state(1), 3);
         due("home()", x.home(), 1);
         updateInRecovery();
+        updateWithoutRecord();
         updateMovesHome();
         updateWithLastSerial();
         updateCutAnywhere();
@@ -307,6 +388,24 @@ public final class PromiseTest {
         pokeRecord(x, 0, 80, 0);
         due("update(0), home being poked while recovery runs", x.update(0), 0);
         due("peek(17)", x.peek(17), 3);
+    }
+
+    private static void updateWithoutRecord() {
+        TrialSlots x = started();
+        x.sign(3, 5, 6, 7);
+        pokeRecord(x, 0, 70, 31);
+        x.poke(36, 0);
+        due("update(0), no record being good", x.update(0), 0);
+        due("peek(17)", x.peek(17), 3);
+        dueRecord(x, 0, 1, 0);
+        dueRecord(x, 1, 2, 16);
+        TrialSlots y = started();
+        y.sign(3, 5, 6, 7);
+        y.poke(36, 0);
+        y.cut(3);
+        y.update(0);
+        dueRecord(y, 0, 1, 0);
+        due("peek(37)", y.peek(37), 0);
     }
 
     private static void updateMovesHome() {
@@ -455,6 +554,7 @@ public final class PromiseTest {
             dueNothingLogged(x);
             due("counter()", x.counter(), 1);
         }
+        bootOfForged();
         TrialSlots old = trying(3);
         old.confirm();
         old.sign(2, 1, 1, 1);
@@ -467,6 +567,18 @@ public final class PromiseTest {
         old.update(2);
         due("boot() with the version of the counter", old.boot(), 1);
         due("onTrial()", old.onTrial(), true);
+    }
+
+    private static void bootOfForged() {
+        int[][] versionsAndKeys = {{1, 0}, {32, 7}, {33, 0}, {MAX, 7}, {5, 8}, {5, -1}};
+        for (int[] made : versionsAndKeys) {
+            boolean runs = made[0] <= 32 && made[1] >= 0 && made[1] <= 7;
+            TrialSlots x = started();
+            pokeSlot(x, 0, forged(x.key(), made[0], made[1]));
+            due("boot() of version " + made[0] + " going up from key " + made[1],
+                    x.boot(), runs ? 0 : TrialSlots.RECOVERY);
+            due("counter()", x.counter(), runs ? made[0] : 1);
+        }
     }
 
     private static void bootReadsTheTableNow() {
