@@ -1,8 +1,5 @@
 /** At least one test for every promise of the document: ordinary inputs, named edges, wrong inputs. */
-public final class PromiseTest {
-    private static final int MIN = Integer.MIN_VALUE;
-    private static final int MAX = Integer.MAX_VALUE;
-
+public final class PromiseTest extends Kit {
     // Worked out apart from the program, by a script that follows the document's terms.
     private static final int[] DELIVERED_77 = {
         1, -141325341, -1054584938, -261001667, 0, -1591400217, 92122011, 53681035, -1771222326,
@@ -14,127 +11,8 @@ public final class PromiseTest {
         32, -429798488, 980323788, -725478505, 2, 1563625167, 874952758, -509329880, -658265217,
         509710649, 191299935, -1920528043, -1521812651, 1426246163, -1, MAX, MIN};
 
-    private static int wrong = 0;
-    private static int promise = 0;
-
-    private static void due(String what, long got, long want) {
-        if (got != want) {
-            wrong++;
-            System.out.println("promise " + promise + ": " + what + " answered " + got + ", due is " + want);
-        }
-    }
-
-    private static void due(String what, boolean got, boolean want) {
-        due(what, got ? 1 : 0, want ? 1 : 0);
-    }
-
-    private static int hash(int a, int b) {
-        int x = (a ^ 1398175271) * 796343837 + b;
-        x = x ^ (x >>> 13);
-        x = x * 1398175271;
-        return x ^ (x >>> 16);
-    }
-
-    /** The b for which hash(a, b) is that result. */
-    private static int second(int a, int result) {
-        return beforeMixing(result) - (a ^ 1398175271) * 796343837;
-    }
-
-    /** The a for which hash(a, b) is that result. */
-    private static int first(int b, int result) {
-        return (beforeMixing(result) - b) * inverse(796343837) ^ 1398175271;
-    }
-
-    private static int beforeMixing(int result) {
-        int x = (result ^ (result >>> 16)) * inverse(1398175271);
-        return x ^ (x >>> 13) ^ (x >>> 26);
-    }
-
-    private static int inverse(int odd) {
-        int x = odd;
-        for (int i = 0; i < 5; i++) {
-            x = x * (2 - odd * x);
-        }
-        return x;
-    }
-
-    /**
-     * A package that goes up to the root key without the maker: chains are as they come, the last
-     * path word is reckoned back from the root key. With a key that is none the way up has three
-     * steps too.
-     */
-    private static int[] forged(int root, int version, int key) {
-        int[] p = {version, hash(5, 0), hash(6, 1), hash(7, 2), key, 1, 2, 3, 4, 5, 6, 11, 12, 0, 5, 6, 7};
-        int m = hash(hash(hash(hash(17, p[0]), p[1]), p[2]), p[3]);
-        int c = 60 - (m & 15) - (m >>> 4 & 15) - (m >>> 8 & 15) - (m >>> 12 & 15);
-        int[] digits = {m & 15, m >>> 4 & 15, m >>> 8 & 15, m >>> 12 & 15, c & 15, c >>> 4};
-        int value = key;
-        for (int i = 0; i < 6; i++) {
-            int x = p[5 + i];
-            for (int j = digits[i]; j < 15; j++) {
-                x = hash(x, 16 * i + j);
-            }
-            value = hash(value, x);
-        }
-        int node = 8 + key;
-        for (int level = 0; level < 2; level++) {
-            boolean isLeft = node % 2 == 0;
-            int neighbour = p[11 + level];
-            value = hash(isLeft ? hash(value, neighbour) : hash(neighbour, value), node / 2);
-            node = node / 2;
-        }
-        int pair = first(node / 2, root);
-        p[13] = node % 2 == 0 ? second(value, pair) : first(value, pair);
-        return p;
-    }
-
-    private static void pokeSlot(TrialSlots x, int slot, int[] words) {
-        for (int i = 0; i < 17; i++) {
-            x.poke(17 * slot + i, words[i]);
-        }
-    }
-
-    private static void pokeRecord(TrialSlots x, int record, int serial, int entry) {
-        x.poke(34 + 3 * record, serial);
-        x.poke(35 + 3 * record, entry);
-        x.poke(36 + 3 * record, hash(hash(serial, entry), 5));
-    }
-
-    private static void dueRecord(TrialSlots x, int record, int serial, int entry) {
-        due("serial of record " + record, x.peek(34 + 3 * record), serial);
-        due("entry of record " + record, x.peek(35 + 3 * record), entry);
-        due("check of record " + record, x.peek(36 + 3 * record), hash(hash(serial, entry), 5));
-    }
-
-    private static void dueOff(TrialSlots x) {
-        due("running()", x.running(), TrialSlots.NONE);
-        due("onTrial()", x.onTrial(), false);
-        dueNothingLogged(x);
-    }
-
-    private static void dueNothingLogged(TrialSlots x) {
-        due("log(-1)", x.log(-1), 0);
-        due("log(0)", x.log(0), 0);
-        due("register()", x.register(), 0);
-    }
-
-    private static TrialSlots started() {
-        TrialSlots x = new TrialSlots(77, 1000);
-        x.boot();
-        return x;
-    }
-
-    /** A device on which slot 1 runs on trial with a package of that version. */
-    private static TrialSlots trying(int version) {
-        TrialSlots x = started();
-        x.sign(version, 5, 6, 7);
-        x.update(0);
-        x.boot();
-        return x;
-    }
-
     private static void newObject() {
-        promise = 1;
+        about("promise 1");
         TrialSlots x = new TrialSlots(77, 1000);
         for (int i = 0; i < 17; i++) {
             due("peek(" + i + ")", x.peek(i), DELIVERED_77[i]);
@@ -165,7 +43,7 @@ public final class PromiseTest {
     }
 
     private static void key() {
-        promise = 2;
+        about("promise 2");
         due("key() of 77", new TrialSlots(77, 1000).key(), 207489437);
         due("key() of 77 with another image", new TrialSlots(77, -4).key(), 207489437);
         due("key() of 0", new TrialSlots(0, 0).key(), 302900908);
@@ -177,7 +55,7 @@ public final class PromiseTest {
     }
 
     private static void sign() {
-        promise = 3;
+        about("promise 3");
         TrialSlots x = new TrialSlots(77, 1000);
         int[] refused = {0, 33, -1, MIN, MAX};
         for (int version : refused) {
@@ -200,7 +78,7 @@ public final class PromiseTest {
     }
 
     private static void alter() {
-        promise = 4;
+        about("promise 4");
         TrialSlots x = new TrialSlots(77, 1000);
         due("alter without a package", x.alter(0, 0, 9), false);
         x.sign(3, 5, 6, 7);
@@ -229,7 +107,7 @@ public final class PromiseTest {
     }
 
     private static void word() {
-        promise = 5;
+        about("promise 5");
         TrialSlots x = new TrialSlots(77, 1000);
         due("word(0, 0) without a package", x.word(0, 0), 0);
         x.sign(3, 5, 6, 7);
@@ -246,7 +124,7 @@ public final class PromiseTest {
     }
 
     private static void fault() {
-        promise = 6;
+        about("promise 6");
         TrialSlots x = new TrialSlots(77, 1000);
         due("fault(0) without a package", x.fault(0), TrialSlots.NONE);
         x.sign(3, 5, 6, 7);
@@ -307,7 +185,7 @@ public final class PromiseTest {
     }
 
     private static void cut() {
-        promise = 7;
+        about("promise 7");
         TrialSlots x = started();
         x.sign(3, 5, 6, 7);
         due("cut(-2)", x.cut(-2), false);
@@ -336,7 +214,7 @@ public final class PromiseTest {
     }
 
     private static void update() {
-        promise = 8;
+        about("promise 8");
         TrialSlots x = new TrialSlots(77, 1000);
         x.sign(3, 5, 6, 7);
         due("update(0), the device being off", x.update(0), TrialSlots.REFUSED);
@@ -445,7 +323,7 @@ public final class PromiseTest {
     }
 
     private static void boot() {
-        promise = 9;
+        about("promise 9");
         TrialSlots x = new TrialSlots(77, 1000);
         due("boot()", x.boot(), 0);
         due("running()", x.running(), 0);
@@ -590,7 +468,7 @@ public final class PromiseTest {
     }
 
     private static void confirm() {
-        promise = 10;
+        about("promise 10");
         TrialSlots x = new TrialSlots(77, 1000);
         due("confirm(), the device being off", x.confirm(), TrialSlots.REFUSED);
         x.boot();
@@ -645,7 +523,7 @@ public final class PromiseTest {
     }
 
     private static void running() {
-        promise = 11;
+        about("promise 11");
         TrialSlots x = new TrialSlots(77, 1000);
         due("running()", x.running(), TrialSlots.NONE);
         x.boot();
@@ -664,7 +542,7 @@ public final class PromiseTest {
     }
 
     private static void onTrial() {
-        promise = 12;
+        about("promise 12");
         TrialSlots x = trying(3);
         due("onTrial()", x.onTrial(), true);
         pokeRecord(x, 0, 50, 30);
@@ -681,7 +559,7 @@ public final class PromiseTest {
     }
 
     private static void counter() {
-        promise = 13;
+        about("promise 13");
         TrialSlots x = trying(32);
         due("counter()", x.counter(), 1);
         x.confirm();
@@ -694,7 +572,7 @@ public final class PromiseTest {
     }
 
     private static void state() {
-        promise = 14;
+        about("promise 14");
         TrialSlots x = new TrialSlots(77, 1000);
         int[] none = {-1, 2, MIN, MAX};
         for (int slot : none) {
@@ -709,7 +587,7 @@ public final class PromiseTest {
     }
 
     private static void home() {
-        promise = 15;
+        about("promise 15");
         TrialSlots x = new TrialSlots(77, 1000);
         pokeRecord(x, 0, 5, 0);
         pokeRecord(x, 1, 5, 1);
@@ -733,7 +611,7 @@ public final class PromiseTest {
     }
 
     private static void peek() {
-        promise = 16;
+        about("promise 16");
         TrialSlots x = new TrialSlots(77, 1000);
         for (int place = 0; place < 40; place++) {
             x.poke(place, 500 + place);
@@ -748,7 +626,7 @@ public final class PromiseTest {
     }
 
     private static void poke() {
-        promise = 17;
+        about("promise 17");
         TrialSlots x = started();
         x.cut(0);
         due("poke(0, the same)", x.poke(0, 1), true);
@@ -767,7 +645,7 @@ public final class PromiseTest {
     }
 
     private static void register() {
-        promise = 18;
+        about("promise 18");
         TrialSlots x = new TrialSlots(77, 1000);
         due("register()", x.register(), 0);
         x.boot();
@@ -787,7 +665,7 @@ public final class PromiseTest {
     }
 
     private static void log() {
-        promise = 19;
+        about("promise 19");
         TrialSlots x = new TrialSlots(77, 1000);
         due("log(-1)", x.log(-1), 0);
         due("log(0)", x.log(0), 0);
@@ -814,7 +692,7 @@ public final class PromiseTest {
     }
 
     private static void writes() {
-        promise = 20;
+        about("promise 20");
         TrialSlots x = started();
         x.sign(3, 5, 6, 7);
         due("writes()", x.writes(), 0);
@@ -833,6 +711,7 @@ public final class PromiseTest {
     }
 
     private static void constants() {
+        about("the constants");
         due("NONE", TrialSlots.NONE, -1);
         due("CUT", TrialSlots.CUT, -1);
         due("REFUSED", TrialSlots.REFUSED, -2);
@@ -861,9 +740,6 @@ public final class PromiseTest {
         register();
         log();
         writes();
-        System.out.println(wrong == 0 ? "all answers are as due" : wrong + " answers are not as due");
-        if (wrong != 0) {
-            System.exit(1);
-        }
+        end();
     }
 }
